@@ -79,6 +79,7 @@ public final class DifferTest {
     keeps("another name of the rack", START.replace("R s", "R t").replace("c s", "c t"), 30, 5);
     keeps("racks that change names", START.replace("R r", "R x").replace("R s", "R r").replace("R x", "R s"), 0);
     keeps("a name of another kind", START.replace("B a r 1 0 0 2 2", "P a 0 0"), 10, 2);
+    keeps("another w and h", START.replace("9 0 2 2", "9 0 3 3"), 30, 5);
     keeps("two bins away", "R s 9 0 9 9/B c s 1 9 0 2 2/", 30, 2, 3);
   }
 

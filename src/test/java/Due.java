@@ -30,7 +30,10 @@ final class Due {
     same(what, got ? 1 : 0, 1);
   }
 
-  /** The exception's class must be the very one: one below it is wrong too. */
+  /**
+   * The exception's class must be the very one, one below it is wrong too; and the class itself
+   * must have thrown it, not the machine or the library.
+   */
   void refuses(String what, Class<? extends RuntimeException> due, Call call) {
     asked++;
     try {
@@ -38,6 +41,8 @@ final class Due {
     } catch (RuntimeException e) {
       if (e.getClass() != due) {
         tell(what + " threw " + e.getClass().getName() + ", due is " + due.getName());
+      } else if (!e.getStackTrace()[0].getClassName().startsWith("BuildingText")) {
+        tell(what + " did not throw " + due.getName() + " by itself");
       }
       return;
     }

@@ -46,6 +46,13 @@ public final class FaultTest {
 
   private static void sharedArea() {
     faults("R r 0 0 2 2/R s 2 0 2 2/R t 0 2 2 2/R u 2 2 2 2/");
+    faults("R r 2 0 2 2/R s 0 0 2 2/");
+    faults("R r 0 2 2 2/R s 0 0 2 2/");
+    faults("R r 5 0 4 1/R s 8 0 1 9/", 2, 1, 0);
+    faults("R r 8 0 1 9/R s 5 0 4 1/", 2, 1, 0);
+    faults("R r 0 5 1 4/R s 0 8 9 1/", 2, 1, 0);
+    faults("R r 0 0 4 1/R s 4 0 1 9/");
+    faults("R r 0 0 1 4/R s 0 4 9 1/");
     faults("R r 0 0 2 2/R s 1 1 2 2/", 2, 1, 0);
     faults("R r 0 0 9 9/R s 1 1 2 2/", 2, 1, 0);
     faults("R r 1 1 2 2/R s 0 0 9 9/", 2, 1, 0);

@@ -83,7 +83,12 @@ public final class PieceTest {
   }
 
   private static void latestEdition() {
-    BuildingText building = Due.of("P a 0 0/P b 0 0/W a b =/D d a/E l a b/");
+    BuildingText building = Due.of("P a 0 0/P b 0 0/P c 0 0/W a b =/D d a/E l a b c/");
+    Due.read(building, "P a 0 0\nP b 0 0\nP c 0 0\nD d a\nE l b c\n");
+    piece(building, 0, 0, 1, 1, 0, 0);
+    piece(building, 1, 1, 0, 0, 1, -1);
+    piece(building, 2, 2, 0, 0, 1, -1);
+    Due.read(building, "P a 0 0\nP b 0 0\nW a b =\nD d a\nE l a b\n");
     piece(building, 1, 1, 1, 1, 1, 1);
     Due.read(building, "P a 0 0\nP b 0 0\n");
     piece(building, 0, 0, 0, 0, 0, -1);

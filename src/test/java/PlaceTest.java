@@ -62,6 +62,10 @@ public final class PlaceTest {
       DUE.same("inside r " + i, building.inside(2 + i, 0) ? 1 : 0, within[i]);
       DUE.same("inside t " + i, building.inside(2 + i, 1) ? 1 : 0, 1);
     }
+    BuildingText far = Due.of("R r 9 1 3 9/B b r 1 9 9 3 1/B c r 1 10 1 2 9/B d r 1 9 1 3 9/");
+    for (int i = 1; i <= 3; i++) {
+      DUE.holds("inside far " + i, far.inside(i, 0));
+    }
     int[][] wrong = {{0, 0}, {2, 2}, {9, 0}, {2, 9}, {-1, 0}, {2, -1}, {10, 0}, {2, 10}, {0, 2},
         {Integer.MAX_VALUE, 0}, {2, Integer.MIN_VALUE}};
     for (int[] pair : wrong) {
