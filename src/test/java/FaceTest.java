@@ -25,29 +25,42 @@ public final class FaceTest {
     "int count(int)",
   };
 
+  private static final Due DUE = new Due("FaceTest");
+
   public static void main(String[] args) {
-    Due due = new Due("FaceTest");
+    DUE.test("the public face", "public final class BuildingText", FaceTest::classAndConstructor);
+    DUE.test("the public face", "public void sign(int c) throws IllegalArgumentException, UnsupportedOperationException | and all others", FaceTest::methods);
+    DUE.test("the public face", "public final class BuildingText | no field", FaceTest::fields);
+    DUE.end();
+  }
+
+  private static void methods() {
     Set<String> wanted = new TreeSet<>(Arrays.asList(FACE));
     Set<String> found = new TreeSet<>();
     for (Method method : BuildingText.class.getDeclaredMethods()) {
       if (!Modifier.isPrivate(method.getModifiers())) {
-        due.same("modifiers of " + method.getName(), method.getModifiers(), Modifier.PUBLIC);
+        DUE.same("modifiers of " + method.getName(), method.getModifiers(), Modifier.PUBLIC);
         found.add(describe(method));
       }
     }
-    due.same("the face", String.join("\n", found), String.join("\n", wanted));
+    DUE.same("the face", String.join("\n", found), String.join("\n", wanted));
+  }
+
+  private static void fields() {
     for (Field field : BuildingText.class.getDeclaredFields()) {
-      due.holds(field + " is private", Modifier.isPrivate(field.getModifiers()));
-      due.holds(field + " is final if static",
+      DUE.holds(field + " is private", Modifier.isPrivate(field.getModifiers()));
+      DUE.holds(field + " is final if static",
           !Modifier.isStatic(field.getModifiers()) || Modifier.isFinal(field.getModifiers()));
     }
+  }
+
+  private static void classAndConstructor() {
     Constructor<?>[] constructors = BuildingText.class.getDeclaredConstructors();
-    due.same("constructors", constructors.length, 1);
-    due.same("the constructor's parameters", constructors[0].getParameterCount(), 0);
-    due.same("the constructor's modifiers", constructors[0].getModifiers(), Modifier.PUBLIC);
-    due.same("the class's modifiers", BuildingText.class.getModifiers(),
+    DUE.same("constructors", constructors.length, 1);
+    DUE.same("the constructor's parameters", constructors[0].getParameterCount(), 0);
+    DUE.same("the constructor's modifiers", constructors[0].getModifiers(), Modifier.PUBLIC);
+    DUE.same("the class's modifiers", BuildingText.class.getModifiers(),
         Modifier.PUBLIC | Modifier.FINAL);
-    due.end();
   }
 
   private static String describe(Method method) {

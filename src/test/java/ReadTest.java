@@ -1,267 +1,315 @@
-/** Promise 3 (read): which texts are refused, at which place, and the limits. */
+/** Promise 3 (read): what is answered, what is then collected, the limits, and editions. */
 public final class ReadTest {
   private static final Due DUE = new Due("ReadTest");
-  private static final String RACK = "R r 0 0 5 5/";
-  private static final String PIECES = "P p 1 0/P q 2 0/";
+  private static final String LINKED = "R r 0 0 1 1/B b r 1 0 0 1 1/P p 1 0/P q 2 0/";
+  private static final String WAY = "W p q =/";
+  private static final String SERVE = "A b p/";
 
   public static void main(String[] args) {
-    takenTexts();
-    lines();
-    names();
-    numbers();
-    usedNames();
-    ways();
-    lifts();
-    mostPlaces();
-    mostLinks();
-    mostEditions();
-    refusalComesFirst();
+    DUE.test("promise 3", "how many places it has", ReadTest::answersPlaces);
+    DUE.test("promise 3", "or -1 less the place at which it is refused", ReadTest::answersRefusedPlace);
+    DUE.test("promise 3", "Reads what was collected (nothing is, then) | taken", ReadTest::nothingIsAfterTaken);
+    DUE.test("promise 3", "Reads what was collected (nothing is, then) | refused", ReadTest::nothingIsAfterRefused);
+    DUE.test("promise 3", "Reads what was collected (nothing is, then) | thrown", ReadTest::nothingIsAfterThrown);
+    limits();
+    editions();
     DUE.end();
   }
 
-  /** The caret stands before the sign that is refused, or behind all if it is the end. */
-  private static void refused(String marked) {
-    int place = marked.indexOf('^');
-    String text = marked.replace("^", "").replace('/', '\n');
-    BuildingText building = new BuildingText();
-    DUE.same("read of " + marked, Due.read(building, text), -1 - place);
-    DUE.same("editions after " + marked, building.count(3), 0);
-    DUE.same("signs after " + marked, building.count(4), 0);
+  private static void limits() {
+    DUE.test("promise 3", "UnsupportedOperationException .. more than 60 places", ReadTest::mostPlaces);
+    DUE.test("promise 3", "more than 60 places | of any kind", ReadTest::mostPlacesOfEachKind);
+    DUE.test("promise 3", "more than 60 places | lines W and A are none", ReadTest::linksAreNoPlaces);
+    DUE.test("promise 3", "more than 60 lines W", ReadTest::mostWays);
+    DUE.test("promise 3", "more than 60 lines .. A", ReadTest::mostServes);
+    DUE.test("promise 3", "more than 60 lines W and A together", ReadTest::mostLinksTogether);
+    DUE.test("promise 3", "more than 60 lines W and A together | lifts are none", ReadTest::liftsAreNoLinks);
+    DUE.test("promise 3", "or an eighth edition", ReadTest::mostEditions);
+    DUE.test("promise 3", "or an eighth edition | refused ones are none", ReadTest::refusedTextsAreNoEditions);
+    DUE.test("promise 3", "or an eighth edition | thrown ones are none", ReadTest::thrownTextsAreNoEditions);
+    DUE.test("promise 3", "where it is not refused so | more than 60 places", ReadTest::refusedBeforePlaces);
+    DUE.test("promise 3", "where it is not refused so | more than 60 lines", ReadTest::refusedBeforeLinks);
+    DUE.test("promise 3", "where it is not refused so | an eighth edition", ReadTest::refusedBeforeEditions);
   }
 
-  private static void taken(String text, int places) {
-    BuildingText building = new BuildingText();
-    DUE.same("read of " + text, Due.read(building, text.replace('/', '\n')), places);
-    DUE.same("editions after " + text, building.count(3), 1);
-    DUE.same("signs after " + text, building.count(4), 0);
+  private static void editions() {
+    DUE.test("promise 3, terms", "EDITIONS are numbered 1, 2, .. as texts are taken", ReadTest::numbersOfEditions);
+    DUE.test("promise 3, terms", "edition 0 is empty", ReadTest::editionNought);
+    DUE.test("promise 3, terms", "What is asked is told of the latest one", ReadTest::latestIsAsked);
+    DUE.test("promise 3", "What is asked is told of the latest one | a refused text", ReadTest::refusedChangesNothing);
+    DUE.test("promise 3", "What is asked is told of the latest one | a refused call", ReadTest::thrownChangesNothing);
   }
 
-  private static void takenTexts() {
-    taken("", 0);
-    taken("R r 0 0 40 20/", 1);
-    taken("R r 39 19 1 1/", 1);
-    taken("R r 0 0 1 1/B b r 1 0 0 40 20/B c r 9 39 19 1 1/", 3);
-    taken("P a 0 0/P z999 39 19/P a0 0 0/P zzzz 1 1/", 4);
-    taken(RACK + "B b r 1 0 0 1 1/" + PIECES + "D d p/S s p/C c p/E e p/W p q >/W q p =/A b p/", 8);
-    taken(PIECES + "E e p q p q/", 3);
-    taken(PIECES + "W p q =/W p q =/", 2);
-  }
-
-  private static void lines() {
-    refused("^ ");
-    refused("^/");
-    refused("^x p 1 0/");
-    refused("^p p 1 0/");
-    refused("P p 1 0/^/");
-    refused("P p 1 0/^ P q 1 0/");
-    refused("P p 1 0/^F q 1 0/");
-    refused("P^");
-    refused("P ^");
-    refused("P p^");
-    refused("P p ^");
-    refused("P p 1^");
-    refused("P p 1 ^");
-    refused("P p 1 0^");
-    refused("P p 1 0/P q 1 0^");
-    refused("P^p 1 0/");
-    refused("P ^ p 1 0/");
-    refused("P p^/");
-    refused("P p ^ 1 0/");
-    refused("P p 1^/");
-    refused("P p 1 0^ /");
-    refused("P p 1 0^ 0/");
-    refused("R r 0 0 1^/");
-    refused("R r 0 0 1 1^ 1/");
-    refused("B^/");
-    refused("R r 0 0 1 1/B b r 1 0 0 1^/");
-    refused("R r 0 0 1 1/B b r 1 0 0 1 1^ 1/");
-    refused(PIECES + "D d^/");
-    refused(PIECES + "S s p^ q/");
-    refused(PIECES + "C c p^");
-    refused(PIECES + "A^");
-  }
-
-  private static void names() {
-    refused("P ^0 0 0/");
-    refused("P ^A 0 0/");
-    refused("P ^0a 0 0/");
-    refused("P a^A 0 0/");
-    refused("P a^_ 0 0/");
-    refused("P ab^{ 0 0/");
-    refused("P ab^` 0 0/");
-    refused("P ab^: 0 0/");
-    refused("P abcd^e 0 0/");
-    refused("P a123^4 0 0/");
-    refused("P abcd^");
-    refused("P a 0 0/P ^a 1 1/");
-    refused("P a 0 0/R ^a 0 0 1 1/");
-    refused("P a 0 0/E ^a a/");
-    refused("P a 0 0/D ^a a/");
-    refused("R r 0 0 1 1/B ^r r 1 0 0 1 1/");
-    refused("P abcd 0 0/P ^abcde 0 0/");
-    refused("P a 0 0/P ^a/");
-    refused("P a 0 0/P ^a");
-    taken("P a 0 0/P ab 0 0/P abc 0 0/P abcd 0 0/P abc0 0 0/", 5);
-  }
-
-  private static void numbers() {
-    refused("P p ^40 0/");
-    refused("P p ^400 0/");
-    refused("P p ^4294967297 0/");
-    refused("P p ^18446744073709551617 0/");
-    refused("P p ^40");
-    refused("P p ^40x");
-    refused("P p 4^x 0/");
-    refused("P p 0^1 0/");
-    refused("P p 0^0 0/");
-    refused("P p ^-1 0/");
-    refused("P p ^+1 0/");
-    refused("P p 0 ^20/");
-    refused("P p 0 ^x/");
-    refused("R r 0 0 ^0 1/");
-    refused("R r 0 0 ^01 1/");
-    refused("R r 0 0 1 ^0/");
-    refused("R r 0 0 ^41 1/");
-    refused("R r 39 0 ^2 1/");
-    refused("R r 1 0 ^40 1/");
-    refused("R r 0 0 1 ^21/");
-    refused("R r 0 19 1 ^2/");
-    refused("R r 0 1 1 ^20/");
-    refused("R r ^40 0 1 1/");
-    refused("R r 0 ^20 1 1/");
-    refused(RACK + "B b r ^0 0 0 1 1/");
-    refused(RACK + "B b r ^10 0 0 1 1/");
-    refused(RACK + "B b r ^05 0 0 1 1/");
-    refused(RACK + "B b r 1 ^40 0 1 1/");
-    refused(RACK + "B b r 1 0 ^20 1 1/");
-    refused(RACK + "B b r 1 39 0 ^2 1/");
-    refused(RACK + "B b r 1 0 19 1 ^2/");
-    refused(RACK + "B b r 1 0 0 ^0 1/");
-    refused(RACK + "B b r 1 0 0 1 ^0/");
-  }
-
-  private static void usedNames() {
-    refused("B b ^r 1 0 0 1 1/");
-    refused("B b ^b 1 0 0 1 1/");
-    refused(PIECES + "B b ^p 1 0 0 1 1/");
-    refused(RACK + "B b r 1 0 0 1 1/B c ^b 1 0 0 1 1/");
-    refused(RACK + "B b ^rr 1 0 0 1 1/");
-    refused("D d ^p/");
-    refused("D d ^d/");
-    refused("D d ^p/P p 0 0/");
-    refused(RACK + "D d ^r/");
-    refused(RACK + "S s ^r/");
-    refused(RACK + "C c ^r/");
-    refused(RACK + "E e ^r/");
-    refused(PIECES + "D d p/S s ^d/");
-    refused(PIECES + "E e p/E f p ^e/");
-    refused(PIECES + "D d p/S s ^pp/");
-    refused(PIECES + "D d ^0/");
-    refused(PIECES + "A ^p p/");
-    refused(PIECES + "A ^x p/");
-    refused(RACK + PIECES + "A ^r p/");
-    refused(RACK + "B b r 1 0 0 1 1/A b ^b/");
-    refused(RACK + "B b r 1 0 0 1 1/A b ^r/");
-    refused(RACK + "B b r 1 0 0 1 1/A b ^x/");
-    refused("P abcd 0 0/D d abcd^e/");
-  }
-
-  private static void ways() {
-    refused(PIECES + "W p ^p =/");
-    refused(PIECES + "W p ^p/");
-    refused(PIECES + "W ^x q =/");
-    refused(PIECES + "W p ^x =/");
-    refused(PIECES + "W p q^=/");
-    refused(PIECES + "W p q ^</");
-    refused(PIECES + "W p q ^?/");
-    refused(PIECES + "W p q ^/");
-    refused(PIECES + "W p q ^");
-    refused(PIECES + "W p q =^>/");
-    refused(PIECES + "W p q >^ /");
-    refused(PIECES + "W p q >^");
-    refused(PIECES + "D d p/W p ^d =/");
-    refused(PIECES + "D d p/W ^d p =/");
-    refused(RACK + "B b r 1 0 0 1 1/W ^b b =/");
-  }
-
-  private static void lifts() {
-    refused("E e^/");
-    refused("E e^");
-    refused(PIECES + "E e ^/");
-    refused(PIECES + "E e p^");
-    refused(PIECES + "E e p ^/");
-    refused(PIECES + "E e p q p q^ p/");
-    refused(PIECES + "E e p q p q/^x");
-    refused(PIECES + "E e p q ^e/");
-    refused(PIECES + "E e p q p ^x/");
-    taken(PIECES + "E e p/E f p q/E g q p q/E h p p p p/", 6);
-  }
-
-  private static String pieces(int count) {
-    StringBuilder text = new StringBuilder();
-    for (int i = 0; i < count; i++) {
-      text.append("P ").append((char) ('a' + i / 10)).append(i % 10).append(" 0 0\n");
+  private static void answersPlaces() {
+    for (int places : new int[] {0, 1, 2, 59, 60}) {
+      DUE.same("read", Due.read(new BuildingText(), Due.places(places)), places);
     }
-    return text.toString();
+    DUE.same("each kind", Due.read(new BuildingText(),
+        LINKED + "D d p/S s p/C c p/E e p q/" + WAY + SERVE), 8);
+  }
+
+  private static void answersRefusedPlace() {
+    DUE.same("place 0", Due.read(new BuildingText(), "x"), -1);
+    DUE.same("place 1", Due.read(new BuildingText(), "Px"), -2);
+    DUE.same("place 1, the end", Due.read(new BuildingText(), "P"), -2);
+    String text = Due.places(60);
+    DUE.same("the end of many signs", Due.read(new BuildingText(), text + "P"), -2 - text.length());
+    DUE.same("the sign behind many", Due.read(new BuildingText(), text + "/"), -1 - text.length());
+  }
+
+  private static void nothingIsAfterTaken() {
+    BuildingText building = new BuildingText();
+    DUE.same("taken", Due.read(building, "P p 0 0/"), 1);
+    DUE.same("signs", building.count(4), 0);
+    DUE.same("the next text", Due.read(building, "P q 0 0/P p 0 0/"), 2);
+    DUE.same("nothing", building.read(), 0);
+  }
+
+  private static void nothingIsAfterRefused() {
+    BuildingText building = new BuildingText();
+    DUE.same("refused amid its signs", Due.read(building, "P p 0 0/x p 0 0/"), -9);
+    DUE.same("signs", building.count(4), 0);
+    DUE.same("refused at its end", Due.read(building, "P p 0 "), -7);
+    DUE.same("signs", building.count(4), 0);
+    DUE.same("the next text", Due.read(building, "P p 0 0/"), 1);
+  }
+
+  private static void nothingIsAfterThrown() {
+    BuildingText building = new BuildingText();
+    throwsAtRead("too many places", building, Due.places(61));
+    DUE.same("signs", building.count(4), 0);
+    DUE.same("the next text", Due.read(building, "P p 0 0/"), 1);
+    BuildingText full = fullOfEditions();
+    throwsAtRead("an eighth edition", full, "P p 0 0/");
+    DUE.same("signs", full.count(4), 0);
+    DUE.same("the next text", Due.read(full, "x"), -1);
+  }
+
+  private static void throwsAtRead(String what, BuildingText building, String lines) {
+    Due.sign(building, Due.text(lines));
+    DUE.refusesMore(what, building::read);
+  }
+
+  private static BuildingText fullOfEditions() {
+    BuildingText building = new BuildingText();
+    for (int edition = 1; edition <= 7; edition++) {
+      building.read();
+    }
+    return building;
   }
 
   private static void mostPlaces() {
     BuildingText building = new BuildingText();
-    DUE.same("60 places", Due.read(building, pieces(60)), 60);
-    Due.sign(building, pieces(61));
-    DUE.refuses("61 places", UnsupportedOperationException.class, building::read);
-    DUE.row("count after it", building::count, 60, 0, 0, 1, 0);
-    DUE.same("last place", building.named(Due.nameCode("f9")), 59);
-    Due.sign(building, pieces(250));
-    DUE.refuses("250 places", UnsupportedOperationException.class, building::read);
-    DUE.same("a text after it", Due.read(building, pieces(2)), 2);
-    DUE.same("edition", building.count(3), 2);
-    Due.sign(building, pieces(60) + "W a0 f9 =\nD d f9\n");
-    DUE.refuses("a dock too many", UnsupportedOperationException.class, building::read);
-    DUE.same("60 places and links", Due.read(building, pieces(59) + "W a0 f8 =\nE e f8 a0\n"), 60);
-    DUE.same("steps", building.piece(0, 3), 1);
+    DUE.same("60 places", Due.read(building, Due.places(60)), 60);
+    DUE.same("the last one", building.named(Due.nameCode(Due.placeName(59))), 59);
+    throwsAtRead("61 places", new BuildingText(), Due.places(61));
+    throwsAtRead("62 places", new BuildingText(), Due.places(62));
+    // More signs than an object is used for; the text holds far more places than are kept.
+    throwsAtRead("270 places", new BuildingText(), Due.places(270));
   }
 
-  private static void mostLinks() {
-    String start = "R r 0 0 1 1\nB b r 1 0 0 1 1\nP p 1 0\nP q 2 0\n";
-    String way = "W p q >\n";
-    String serve = "A b p\n";
-    for (int ways : new int[] {0, 1, 30, 59, 60}) {
-      BuildingText building = new BuildingText();
-      String links = way.repeat(ways) + serve.repeat(60 - ways);
-      DUE.same("60 links", Due.read(building, start + links), 4);
-      DUE.row("60 links", building::count, 4, ways, 60 - ways);
-      Due.sign(building, start + links + serve);
-      DUE.refuses("61 links", UnsupportedOperationException.class, building::read);
-      Due.sign(building, start + way + links);
-      DUE.refuses("61 links", UnsupportedOperationException.class, building::read);
-      DUE.row("after 61 links", building::count, 4, ways, 60 - ways, 1, 0);
+  private static void mostPlacesOfEachKind() {
+    for (String kind : new String[] {"R x 0 0 1 1/", "P x 0 0/", "D x p/", "S x p/", "C x p/", "E x p/", "E x p p p p/"}) {
+      DUE.same("60 places: " + kind, Due.read(new BuildingText(), Due.places(59).replace("D x p/", "D xx p/") + kind), 60);
+      throwsAtRead("61 places: " + kind, new BuildingText(), Due.places(60).replace("D x p/", "D xx p/") + kind);
     }
+    String bins = "R rr 0 0 1 1/B bb rr 1 0 0 1 1/";
+    DUE.same("60 places: bin", Due.read(new BuildingText(), Due.places(58) + bins), 60);
+    throwsAtRead("61 places: bin", new BuildingText(), Due.places(59) + bins);
+  }
+
+  private static void linksAreNoPlaces() {
+    BuildingText building = new BuildingText();
+    DUE.same("60 places, 1 line W", Due.read(building, Due.places(59) + "P p0 1 0/W p p0 =/"), 60);
+    DUE.same("60 places, 2 lines A", Due.read(new BuildingText(),
+        Due.places(58) + "R rr 0 0 1 1/B bb rr 1 0 0 1 1/A bb p/A bb p/"), 60);
+  }
+
+  private static void links(int ways, int serves) {
+    String lines = LINKED + WAY.repeat(ways) + SERVE.repeat(serves);
+    BuildingText building = new BuildingText();
+    if (ways + serves <= 60) {
+      DUE.same(ways + " W, " + serves + " A", Due.read(building, lines), 4);
+      DUE.row(ways + " W, " + serves + " A, count", building::count, 4, ways, serves, 1, 0);
+    } else {
+      throwsAtRead(ways + " W, " + serves + " A", building, lines);
+      DUE.row(ways + " W, " + serves + " A, count", building::count, 0, 0, 0, 0, 0);
+    }
+  }
+
+  private static void mostWays() {
+    links(59, 0);
+    links(60, 0);
+    links(61, 0);
+    String kinds = "P p 1 0/P q 2 0/" + "W p q >/".repeat(30) + "W q p =/".repeat(30);
+    DUE.same("both kinds", Due.read(new BuildingText(), kinds), 2);
+    throwsAtRead("both kinds", new BuildingText(), kinds + "W q p >/");
+  }
+
+  private static void mostServes() {
+    links(0, 59);
+    links(0, 60);
+    links(0, 61);
+  }
+
+  private static void mostLinksTogether() {
+    for (int ways : new int[] {1, 2, 30, 58, 59}) {
+      links(ways, 60 - ways);
+      links(ways, 61 - ways);
+    }
+    throwsAtRead("W behind A", new BuildingText(), LINKED + SERVE.repeat(60) + WAY);
+    links(60, 60);
+  }
+
+  private static void liftsAreNoLinks() {
+    DUE.same("60 lines and lifts", Due.read(new BuildingText(),
+        "P p 1 0/P q 2 0/E e p q p q/" + WAY.repeat(60) + "E f p q/D d p/"), 5);
   }
 
   private static void mostEditions() {
     BuildingText building = new BuildingText();
     for (int edition = 1; edition <= 7; edition++) {
-      DUE.same("edition " + edition, Due.read(building, pieces(edition)), edition);
-      DUE.same("a text that is refused", Due.read(building, "P"), -2);
-      DUE.same("count(3)", building.count(3), edition);
+      DUE.same("edition " + edition, Due.read(building, Due.places(edition)), edition);
     }
-    Due.sign(building, pieces(3));
-    DUE.refuses("an eighth edition", UnsupportedOperationException.class, building::read);
+    throwsAtRead("an eighth one", building, Due.places(3));
     DUE.row("count after it", building::count, 7, 0, 0, 7, 0);
-    DUE.refuses("again", UnsupportedOperationException.class, building::read);
-    DUE.same("what is refused goes first", Due.read(building, "P"), -2);
-    DUE.refuses("differ", IllegalArgumentException.class, () -> building.differ(8));
+    DUE.refusesMore("an eighth one, empty", building::read);
+    DUE.row("count after it", building::count, 7, 0, 0, 7, 0);
+    DUE.refusesArgument("differ from it", () -> building.differ(8));
   }
 
-  private static void refusalComesFirst() {
+  private static void refusedTextsAreNoEditions() {
     BuildingText building = new BuildingText();
-    String text = pieces(61);
-    DUE.same("61 places and a line that is refused", Due.read(building, text + "Q"), -1 - text.length());
-    DUE.same("a name that the 61st has", Due.read(building, text + "P g0 0 0\n"), -3 - text.length());
-    DUE.same("a place at the 61st", Due.read(building, text + "D d g0\nX"), -8 - text.length());
-    String links = pieces(2) + "W a0 a1 =\n".repeat(61);
-    DUE.same("61 links and the end", Due.read(building, links + "W a0 a1 ="), -10 - links.length());
-    DUE.row("count", building::count, 0, 0, 0, 0, 0);
+    for (int i = 0; i < 9; i++) {
+      DUE.same("refused", Due.read(building, "P"), -2);
+    }
+    for (int edition = 1; edition <= 7; edition++) {
+      DUE.same("taken", Due.read(building, "P p 0 0/"), 1);
+      DUE.same("refused", Due.read(building, "P p 0"), -6);
+      DUE.same("edition", building.count(3), edition);
+    }
+  }
+
+  private static void thrownTextsAreNoEditions() {
+    BuildingText building = new BuildingText();
+    throwsAtRead("61 places", building, Due.places(61));
+    for (int edition = 1; edition <= 7; edition++) {
+      DUE.same("taken", building.read(), 0);
+      DUE.same("edition", building.count(3), edition);
+    }
+  }
+
+  private static void refusedBeforePlaces() {
+    String text = Due.places(61);
+    int end = text.length();
+    DUE.same("a wrong sign behind 61", Due.read(new BuildingText(), text + "Q"), -1 - end);
+    DUE.same("an end behind 61", Due.read(new BuildingText(), text + "P x1"), -5 - end);
+    DUE.same("the 61st's name again", Due.read(new BuildingText(),
+        text + "P " + Due.placeName(60) + " 0 0/"), -3 - end);
+    DUE.same("the 61st is no piece", Due.read(new BuildingText(),
+        text + "D x1 " + Due.placeName(60) + "/"), -6 - end);
+    String open = text.substring(0, end - 1);
+    DUE.same("the 61st without its end", Due.read(new BuildingText(), open), -end);
+  }
+
+  private static void refusedBeforeLinks() {
+    String text = LINKED + SERVE.repeat(61);
+    int end = text.length();
+    DUE.same("a wrong sign behind 61", Due.read(new BuildingText(), text + "Q"), -1 - end);
+    DUE.same("the 61st without its end", Due.read(new BuildingText(), text.substring(0, end - 1)), -end);
+    DUE.same("a 62nd with a name not there", Due.read(new BuildingText(), text + "A x p/"), -3 - end);
+  }
+
+  private static void refusedBeforeEditions() {
+    BuildingText building = fullOfEditions();
+    DUE.same("a wrong sign", Due.read(building, "Q"), -1);
+    DUE.same("an end", Due.read(building, "P p 0 0"), -8);
+    DUE.same("a name not there", Due.read(building, "D d p/"), -5);
+    throwsAtRead("not refused", building, "P p 0 0/");
+  }
+
+  private static void numbersOfEditions() {
+    BuildingText building = Due.of("R r 0 0 2 2/B b r 1 0 0 1 1/");
+    DUE.same("the first one", building.count(3), 1);
+    building.fill(1, 1, 5);
+    Due.read(building, "x");
+    Due.take(building, "R r 0 0 2 2/B c r 1 0 0 1 1/");
+    DUE.same("the second one", building.count(3), 2);
+    building.fill(2, 1, 7);
+    building.read();
+    DUE.same("units of the first one", building.differ(1), 5);
+    DUE.same("units of the second one", building.differ(2), 7);
+  }
+
+  private static void editionNought() {
+    BuildingText building = new BuildingText();
+    DUE.same("units of edition 0", building.differ(0), 0);
+    DUE.refusesArgument("a bin of edition 0", () -> building.fill(0, 0, 1));
+    Due.take(building, "R r 0 0 2 2/B b r 1 0 0 1 1/");
+    building.fill(1, 1, 5);
+    DUE.same("units of edition 0 behind another", building.differ(0), 0);
+    DUE.refusesIndex("what was found", () -> building.moved(0));
+    DUE.refusesArgument("a bin of edition 0 behind another", () -> building.fill(0, 1, 1));
+  }
+
+  private static void latestIsAsked() {
+    BuildingText building = Due.of("R r 0 0 2 2/R s 0 0 2 2/B b r 1 5 5 1 1/P p 3 0/P q 4 0/W p q =/A b p/D d p/");
+    Due.take(building, "P x 1 0/P p 3 4/P y 0 0/W x y >/");
+    DUE.row("count", building::count, 3, 1, 0, 2, 0);
+    DUE.row("place", what -> building.place(1, what), 2, 3, 4, 1, 1, 0, -1, 0);
+    DUE.same("p", building.named('p'), 1);
+    DUE.same("r", building.named('r'), -1);
+    DUE.same("check", building.check(), 2);
+    DUE.row("fault", what -> building.fault(1, what), 5, 2, -1);
+    DUE.row("piece", what -> building.piece(0, what), 0, 0, 0, 1, -1);
+    DUE.refusesArgument("inside", () -> building.inside(2, 0));
+    DUE.same("print", building.print(), 5 * 41);
+    building.read();
+    DUE.row("count", building::count, 0, 0, 0, 3, 0);
+    DUE.same("p", building.named('p'), -1);
+    DUE.same("check", building.check(), 0);
+    DUE.same("print", building.print(), 0);
+    DUE.refusesIndex("piece", () -> building.piece(0, 0));
+    DUE.refusesArgument("place", () -> building.place(0, 0));
+  }
+
+  /** Edition 1 has 8 units in a bin that edition 2 has not; a plan is laid out. */
+  private static BuildingText used() {
+    BuildingText building = Due.of("R r 0 0 2 1/B b r 1 0 0 1 1/");
+    building.fill(1, 1, 8);
+    Due.take(building, "R r 0 0 2 1/R s 1 0 3 1/P p 5 0/P q 6 0/W p q >/D d p/");
+    building.differ(1);
+    building.print();
+    return building;
+  }
+
+  private static void refusedChangesNothing() {
+    BuildingText building = used();
+    String state = Due.state(building);
+    for (String lines : new String[] {"x", "R t 0 0 9 9/P z 9 9/D", "P z 9 9/P z 9 9/"}) {
+      DUE.holds("refused", Due.read(building, lines) < 0);
+      DUE.same("state after " + lines, Due.state(building), state);
+    }
+    DUE.same("units", building.differ(1), 8);
+    Due.take(building, "R r 0 0 2 1/B b r 1 0 0 1 1/");
+    DUE.same("the next edition", building.count(3), 3);
+  }
+
+  private static void thrownChangesNothing() {
+    BuildingText building = used();
+    String state = Due.state(building);
+    throwsAtRead("61 places", building, Due.places(61));
+    DUE.same("state after 61 places", Due.state(building), state);
+    BuildingText linked = used();
+    throwsAtRead("61 lines", linked, LINKED + SERVE.repeat(61));
+    DUE.same("state after 61 lines", Due.state(linked), state);
+    DUE.same("units", linked.differ(1), 8);
+    BuildingText full = used();
+    for (int edition = 3; edition <= 7; edition++) {
+      Due.take(full, "R r 0 0 1 1/");
+    }
+    String before = Due.state(full);
+    throwsAtRead("an eighth edition", full, "P p 0 0/");
+    DUE.same("state after an eighth edition", Due.state(full), before);
   }
 }
