@@ -2,7 +2,10 @@ import java.util.ArrayList;
 import java.util.List;
 import java.util.Random;
 
-/** All promises: random runs, from fixed seeds, are compared with the plain model. */
+/**
+ * All promises: random runs, from fixed seeds, are compared with the plain model. An object gets
+ * more than 512 calls here: the class knows no such limit, and long texts meet in one object.
+ */
 public final class ModelTest {
   private static final Due DUE = new Due("ModelTest");
   private static final String SIGNS = "RBPWDSCEA  \n\n\n01239abcpqz=>x#";

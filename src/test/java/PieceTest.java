@@ -6,7 +6,7 @@ public final class PieceTest {
     going();
     answers();
     DUE.test("promise 8", "IndexOutOfBoundsException if there is no such piece", PieceTest::noSuchPiece);
-    DUE.test("promise 8", "IndexOutOfBoundsException if there is no such piece | 60 of them", PieceTest::lastPiece);
+    DUE.test("promise 8", "IndexOutOfBoundsException if there is no such piece | many of them", PieceTest::lastPiece);
     DUE.test("promise 8", "IllegalArgumentException if there is no such what", PieceTest::noSuchWhat);
     DUE.test("promise 8", "IndexOutOfBoundsException .. IllegalArgumentException | both", PieceTest::neither);
     DUE.test("promise 8, terms", "What is asked is told of the latest one", PieceTest::latestEdition);
@@ -143,26 +143,31 @@ public final class PieceTest {
     pieces("P a 0 0/P b 1 0/W a b =/S s a/C c b/", 4, -1, -1);
   }
 
-  /** More signs than an object is used for, so that the chain is as long as it can be. */
+  /** As many pieces in a row as leave calls to ask of the last ones. */
   private static void longChain() {
-    StringBuilder lines = new StringBuilder();
-    int pieces = 59;
-    for (int i = 0; i < pieces; i++) {
-      lines.append("P ").append(chainName(i)).append(" 0 0/");
-    }
-    lines.append("D dock a0/");
-    for (int i = 1; i < pieces; i++) {
-      lines.append("W ").append(chainName(i)).append(' ').append(chainName(i - 1)).append(" >/");
+    StringBuilder lines = new StringBuilder(manyPieces(30) + "D dock a/");
+    for (int i = 1; i < 30; i++) {
+      lines.append("W ").append(pieceName(i)).append(' ').append(pieceName(i - 1)).append(" >/");
     }
     BuildingText building = Due.of(lines.toString());
-    for (int i = 0; i < pieces; i++) {
+    for (int i = 27; i < 30; i++) {
       int piece = i;
-      DUE.row("piece " + i, what -> building.piece(piece, what), i, i == 0 ? 1 : 0, 1, i, i);
+      DUE.row("piece " + i, what -> building.piece(piece, what), i, 0, 1, i, i);
     }
   }
 
-  private static String chainName(int i) {
-    return "" + (char) ('a' + i / 10) + i % 10;
+  private static String manyPieces(int count) {
+    StringBuilder lines = new StringBuilder();
+    for (int i = 0; i < count; i++) {
+      lines.append("P ").append(pieceName(i)).append(" 0 0/");
+    }
+    return lines.toString();
+  }
+
+  /** a, b, .. z, a0, b0, .. */
+  private static String pieceName(int i) {
+    String letter = "" + (char) ('a' + i % 26);
+    return i < 26 ? letter : letter + (i / 26 - 1);
   }
 
   private static void noSuchPiece() {
@@ -180,14 +185,9 @@ public final class PieceTest {
   }
 
   private static void lastPiece() {
-    StringBuilder lines = new StringBuilder();
-    for (int i = 0; i < 60; i++) {
-      lines.append("P ").append(chainName(i)).append(" 0 0/");
-    }
-    lines.append("W a0 f9 =/");
-    BuildingText building = Due.of(lines.toString());
-    DUE.row("the last one", what -> building.piece(59, what), 59, 0, 0, 1, -1);
-    DUE.refusesIndex("one more", () -> building.piece(60, 0));
+    BuildingText building = Due.of(manyPieces(56) + "W a " + pieceName(55) + " =/");
+    DUE.row("the last one", what -> building.piece(55, what), 55, 0, 0, 1, -1);
+    DUE.refusesIndex("one more", () -> building.piece(56, 0));
   }
 
   private static void noSuchWhat() {

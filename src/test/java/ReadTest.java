@@ -1,7 +1,8 @@
 /** Promise 3 (read): what is answered, what is then collected, the limits, and editions. */
 public final class ReadTest {
   private static final Due DUE = new Due("ReadTest");
-  private static final String LINKED = "R r 0 0 1 1/B b r 1 0 0 1 1/P p 1 0/P q 2 0/";
+  private static final String PIECES = "P p 1 0/P q 2 0/";
+  private static final String LINKED = "R r 0 0 1 1/B b r 1 0 0 1 1/" + PIECES;
   private static final String WAY = "W p q =/";
   private static final String SERVE = "A b p/";
 
@@ -13,6 +14,8 @@ public final class ReadTest {
     DUE.test("promise 3", "Reads what was collected (nothing is, then) | thrown", ReadTest::nothingIsAfterThrown);
     limits();
     editions();
+    DUE.test("what it is", "An object is used for at most 512 calls after it has been made | signs and a read", ReadTest::longestText);
+    DUE.test("what it is", "An object is used for at most 512 calls after it has been made | reads", ReadTest::mostReads);
     DUE.end();
   }
 
@@ -104,8 +107,7 @@ public final class ReadTest {
     DUE.same("the last one", building.named(Due.nameCode(Due.placeName(59))), 59);
     throwsAtRead("61 places", new BuildingText(), Due.places(61));
     throwsAtRead("62 places", new BuildingText(), Due.places(62));
-    // More signs than an object is used for; the text holds far more places than are kept.
-    throwsAtRead("270 places", new BuildingText(), Due.places(270));
+    throwsAtRead("76 places", new BuildingText(), Due.places(76));
   }
 
   private static void mostPlacesOfEachKind() {
@@ -125,45 +127,48 @@ public final class ReadTest {
         Due.places(58) + "R rr 0 0 1 1/B bb rr 1 0 0 1 1/A bb p/A bb p/"), 60);
   }
 
-  private static void links(int ways, int serves) {
-    String lines = LINKED + WAY.repeat(ways) + SERVE.repeat(serves);
+  /** Texts are kept so short that an object is used for 512 calls at most. */
+  private static void links(String start, int ways, int serves) {
+    String lines = start + WAY.repeat(ways) + SERVE.repeat(serves);
     BuildingText building = new BuildingText();
     if (ways + serves <= 60) {
-      DUE.same(ways + " W, " + serves + " A", Due.read(building, lines), 4);
-      DUE.row(ways + " W, " + serves + " A, count", building::count, 4, ways, serves, 1, 0);
+      DUE.holds(ways + " W, " + serves + " A", Due.read(building, lines) > 0);
+      DUE.same("lines W", building.count(1), ways);
+      DUE.same("lines A", building.count(2), serves);
     } else {
       throwsAtRead(ways + " W, " + serves + " A", building, lines);
-      DUE.row(ways + " W, " + serves + " A, count", building::count, 0, 0, 0, 0, 0);
+      DUE.same("lines W", building.count(1), 0);
+      DUE.same("lines A", building.count(2), 0);
     }
   }
 
   private static void mostWays() {
-    links(59, 0);
-    links(60, 0);
-    links(61, 0);
-    String kinds = "P p 1 0/P q 2 0/" + "W p q >/".repeat(30) + "W q p =/".repeat(30);
+    links(PIECES, 59, 0);
+    links(PIECES, 60, 0);
+    links(PIECES, 61, 0);
+    String kinds = PIECES + "W p q >/".repeat(30) + "W q p =/".repeat(30);
     DUE.same("both kinds", Due.read(new BuildingText(), kinds), 2);
     throwsAtRead("both kinds", new BuildingText(), kinds + "W q p >/");
   }
 
   private static void mostServes() {
-    links(0, 59);
-    links(0, 60);
-    links(0, 61);
+    links(LINKED, 0, 59);
+    links(LINKED, 0, 60);
+    links(LINKED, 0, 61);
   }
 
   private static void mostLinksTogether() {
-    for (int ways : new int[] {1, 2, 30, 58, 59}) {
-      links(ways, 60 - ways);
-      links(ways, 61 - ways);
+    for (int ways : new int[] {1, 2, 30, 45}) {
+      links(LINKED, ways, 60 - ways);
+      links(LINKED, ways, 61 - ways);
     }
+    links(LINKED, 31, 31);
     throwsAtRead("W behind A", new BuildingText(), LINKED + SERVE.repeat(60) + WAY);
-    links(60, 60);
   }
 
   private static void liftsAreNoLinks() {
     DUE.same("60 lines and lifts", Due.read(new BuildingText(),
-        "P p 1 0/P q 2 0/E e p q p q/" + WAY.repeat(60) + "E f p q/D d p/"), 5);
+        LINKED + "E e p q p q/" + SERVE.repeat(60) + "E f p q/D d p/"), 7);
   }
 
   private static void mostEditions() {
@@ -284,32 +289,55 @@ public final class ReadTest {
   }
 
   private static void refusedChangesNothing() {
-    BuildingText building = used();
-    String state = Due.state(building);
     for (String lines : new String[] {"x", "R t 0 0 9 9/P z 9 9/D", "P z 9 9/P z 9 9/"}) {
+      BuildingText building = used();
+      String state = Due.state(building);
       DUE.holds("refused", Due.read(building, lines) < 0);
       DUE.same("state after " + lines, Due.state(building), state);
+      DUE.same("units", building.differ(1), 8);
+      Due.take(building, "R r 0 0 2 1/");
+      DUE.same("the next edition", building.count(3), 3);
     }
-    DUE.same("units", building.differ(1), 8);
-    Due.take(building, "R r 0 0 2 1/B b r 1 0 0 1 1/");
-    DUE.same("the next edition", building.count(3), 3);
   }
 
   private static void thrownChangesNothing() {
-    BuildingText building = used();
-    String state = Due.state(building);
-    throwsAtRead("61 places", building, Due.places(61));
-    DUE.same("state after 61 places", Due.state(building), state);
-    BuildingText linked = used();
-    throwsAtRead("61 lines", linked, LINKED + SERVE.repeat(61));
-    DUE.same("state after 61 lines", Due.state(linked), state);
-    DUE.same("units", linked.differ(1), 8);
+    for (String lines : new String[] {Due.places(61), LINKED + SERVE.repeat(61)}) {
+      BuildingText building = Due.of("R x 3 0 2 1/P y 5 0/");
+      DUE.same("print", building.print(), 41);
+      throwsAtRead(lines, building, lines);
+      DUE.row("count", building::count, 2, 0, 0, 1, 0);
+      DUE.row("place", what -> building.place(0, what), 0, 3, 0, 2, 1, 0, -1, 0);
+      DUE.row("piece", what -> building.piece(0, what), 1, 0, 0, 0, -1);
+      DUE.same("y", building.named('y'), 1);
+      DUE.same("p", building.named('p'), -1);
+      DUE.same("check", building.check(), 0);
+      DUE.same("at", building.at(5), '+');
+      DUE.refusesArgument("no edition 2", () -> building.differ(2));
+    }
     BuildingText full = used();
     for (int edition = 3; edition <= 7; edition++) {
       Due.take(full, "R r 0 0 1 1/");
     }
-    String before = Due.state(full);
+    String state = Due.state(full);
     throwsAtRead("an eighth edition", full, "P p 0 0/");
-    DUE.same("state after an eighth edition", Due.state(full), before);
+    DUE.same("state after an eighth edition", Due.state(full), state);
+  }
+
+  /** 511 signs, so that read() is the last of 512 calls. */
+  private static void longestText() {
+    String lines = PIECES + WAY.repeat(55) + "P aaaa 0 0/P aaab 0 0/P aaac 0 0/P aaad 0 0/";
+    DUE.same("signs", lines.length() + 11, 511);
+    DUE.same("taken", Due.read(new BuildingText(), lines + "P aaae 0 0/"), 7);
+    DUE.same("refused at the last sign", Due.read(new BuildingText(), lines + "P aaae 0 0!"), -511);
+    DUE.same("refused at the end", Due.read(new BuildingText(), lines + "P aaae 0 10"), -512);
+    throwsAtRead("too many lines", new BuildingText(), PIECES + WAY.repeat(61) + "D d p/");
+  }
+
+  private static void mostReads() {
+    BuildingText building = fullOfEditions();
+    for (int call = 8; call <= 511; call++) {
+      DUE.refusesMore("read", building::read);
+    }
+    DUE.same("the latest edition", building.count(3), 7);
   }
 }

@@ -6,6 +6,7 @@ public final class SignTest {
     DUE.test("promise 1", "Edition 0", SignTest::editionOfNewObject);
     DUE.test("promise 1", "nothing signed", SignTest::signsOfNewObject);
     DUE.test("promise 1", "Edition 0; nothing signed | an empty object", SignTest::asksNewObject);
+    DUE.test("promise 1", "Edition 0; nothing signed | beside another object", SignTest::besideAnotherObject);
     DUE.test("promise 2", "A sign is collected", SignTest::collectsSigns);
     DUE.test("promise 2", "IllegalArgumentException if it is neither 10 nor 32 .. 126", SignTest::signsThatAreNone);
     DUE.test("promise 2", "IllegalArgumentException if it is neither 10 nor 32 .. 126 | a refused call", SignTest::refusedSignIsNotCollected);
@@ -49,6 +50,20 @@ public final class SignTest {
     DUE.refusesArgument("inside", () -> building.inside(0, 0));
     DUE.refusesArgument("fill", () -> building.fill(0, 0, 0));
     DUE.refusesArgument("differ", () -> building.differ(1));
+  }
+
+  private static void besideAnotherObject() {
+    BuildingText other = Due.of("R r 0 0 2 1/R s 0 0 1 1/P p 3 0/");
+    other.print();
+    Due.sign(other, "P q");
+    String state = Due.state(other);
+    BuildingText building = new BuildingText();
+    DUE.row("count", building::count, 0, 0, 0, 0, 0);
+    DUE.same("check", building.check(), 0);
+    DUE.refusesIndex("at", () -> building.at(0));
+    Due.take(building, "P z 0 1/");
+    building.print();
+    DUE.same("state of the other one", Due.state(other), state);
   }
 
   private static void collectsSigns() {
