@@ -17,6 +17,7 @@ public final class PieceTest {
     DUE.test("promise 8, terms", "kind > (sign 62) from the first one to the second one alone", PieceTest::oneWay);
     DUE.test("promise 8, terms", "= (61) both ways", PieceTest::bothWays);
     DUE.test("promise 8, terms", "GOING: by ways, as they allow", PieceTest::chains);
+    DUE.test("promise 8, terms", "GOING: by ways, as they allow | several from or to one piece", PieceTest::forks);
     DUE.test("promise 8, terms", "and by lifts from any of their stops to any other one", PieceTest::lifts);
     DUE.test("promise 8, terms", "and by lifts | one stop", PieceTest::liftWithOneStop);
     DUE.test("promise 8, terms", "and by lifts | one stop twice", PieceTest::liftWithStopTwice);
@@ -63,6 +64,18 @@ public final class PieceTest {
     pieces("P a 0 0/P b 1 0/P c 2 0/P d 3 0/W c d =/W b c >/W a b >/", 3, 3, 2, 1, 1);
     // Neither a point nor a bin that is served binds two pieces.
     pieces("R r 0 0 1 1/B n r 1 0 0 1 1/P a 5 5/P b 5 5/A n a/A n b/", 3, 0, 0);
+  }
+
+  private static void forks() {
+    String pieces = "P a 0 0/P b 1 0/P c 2 0/P d 3 0/";
+    pieces(pieces + "W a b >/W a c >/W a d >/", 3, 3, 0, 0, 0);
+    pieces(pieces + "W b a >/W c a >/W d a >/", 3, 0, 1, 1, 1);
+    pieces(pieces + "W a b >/W a c >/W a d >/D x a/", 1, 1, 1, 1, 1);
+    pieces(pieces + "W b a >/W c a >/W d a >/D x a/", 2, 1, 1, 1, 1);
+    pieces(pieces + "W a b =/W a c =/W a d =/", 3, 3, 3, 3, 3);
+    pieces(pieces + "E l a b/E m a c/E n a d/", 3, 3, 3, 3, 3);
+    pieces(pieces + "W a b >/E l a c/W a d >/", 3, 3, 0, 3, 0);
+    pieces(pieces + "W a b >/W a c >/W a d >/D x b/", 4, 1, 0, -1, -1);
   }
 
   private static void lifts() {
