@@ -276,13 +276,7 @@ public final class TextTest {
 
   private static void moreSignsOfNumber() {
     forEverySign(DIGITS + " ", (sign, fits) -> refusedTextAt("P p 1" + sign, fits ? 6 : 5));
-    forEverySign(DIGITS + "\n", (sign, fits) -> {
-      if (fits && sign != '\n') {
-        refusedTextAt("P p 0 1" + sign, 8);
-      } else if (!fits) {
-        refusedTextAt("P p 0 1" + sign, 7);
-      }
-    });
+    forEverySign(DIGITS + "\n", (sign, fits) -> refusedTextAt("P p 0 1" + sign + "!", fits ? 8 : 7));
     taken("P p 10 19/R r 12 13 14 7/", 2);
   }
 
