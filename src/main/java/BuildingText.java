@@ -16,7 +16,7 @@ public final class BuildingText {
   private static final int LINE_END = 10;
   private static final int MOST_SIGNS = 3000;
   private static final int MOST_PLACES = 60;
-  private static final int MOST_LINKS = 60;
+  private static final int MOST_WAYS_AND_SERVES = 60;
   private static final int MOST_STOPS = 4;
   private static final int MOST_EDITION = 7;
   private static final int MOST_UNITS = 99;
@@ -26,28 +26,27 @@ public final class BuildingText {
   private int signCount;
   private final ArrayList<Edition> editions;
   private Edition latest;
-  private final Going going;
+  private Going going;
   private final Inspection inspection;
   private final Plan plan;
-  private final int[] found;
-  private int foundCount;
+  private final ArrayList<Place> found;
 
   public BuildingText() {
     signs = new char[MOST_SIGNS];
     editions = new ArrayList<>();
     latest = new Edition();
     editions.add(latest);
-    going = new Going();
+    going = new Going(latest);
     inspection = new Inspection();
     plan = new Plan();
-    found = new int[MOST_PLACES];
+    found = new ArrayList<>();
   }
 
   public void sign(int c) throws IllegalArgumentException, UnsupportedOperationException {
     if (c != LINE_END && (c < 32 || c > 126)) {
       throw new IllegalArgumentException("no sign of a text");
     }
-    if (signCount >= MOST_SIGNS) {
+    if (signCount >= signs.length) {
       throw new UnsupportedOperationException("too many signs");
     }
     signs[signCount] = (char) c;
@@ -73,7 +72,8 @@ public final class BuildingText {
   private void take(Edition edition) {
     editions.add(edition);
     latest = edition;
-    going.learn(edition);
+    going = new Going(edition);
+    going.learn();
     inspection.inspect(edition, going);
   }
 
@@ -89,14 +89,15 @@ public final class BuildingText {
       case 3: return place.w;
       case 4: return place.h;
       case 5: return place.level;
-      case 6: return place.base;
+      case 6: return place.baseNumber();
       case 7: return place.lines;
       default: throw new IllegalArgumentException("no such what");
     }
   }
 
   public int named(int c) {
-    return latest.find(c);
+    Place place = latest.namedOrNull(c);
+    return place == null ? NONE : place.number;
   }
 
   public int check() {
@@ -117,12 +118,12 @@ public final class BuildingText {
   }
 
   public int piece(int i, int what) throws IndexOutOfBoundsException, IllegalArgumentException {
-    int piece = latest.findPiece(i);
-    if (piece == NONE) {
+    Place piece = latest.pieceOrNull(i);
+    if (piece == null) {
       throw new IndexOutOfBoundsException("no such piece");
     }
     switch (what) {
-      case 0: return piece;
+      case 0: return piece.number;
       case 1: return going.isReached(piece) ? 1 : 0;
       case 2: return going.isExiting(piece) ? 1 : 0;
       case 3: return going.countOnward(piece);
@@ -163,13 +164,12 @@ public final class BuildingText {
     if (older == null) {
       throw new IllegalArgumentException("no such edition");
     }
-    foundCount = 0;
+    found.clear();
     int units = 0;
-    for (int i = 0; i < older.places.size() && foundCount < MOST_PLACES; i++) {
+    for (int i = 0; i < older.places.size(); i++) {
       Place bin = older.places.get(i);
-      if (bin.kind == BIN && bin.units > 0 && !latest.keepsBin(bin, older)) {
-        found[foundCount] = i;
-        foundCount++;
+      if (bin.kind == BIN && bin.units > 0 && !latest.keepsBin(bin)) {
+        found.add(bin);
         units += bin.units;
       }
     }
@@ -177,10 +177,10 @@ public final class BuildingText {
   }
 
   public int moved(int i) throws IndexOutOfBoundsException {
-    if (i < 0 || i >= foundCount) {
+    if (i < 0 || i >= found.size()) {
       throw new IndexOutOfBoundsException("no such bin was found");
     }
-    return found[i];
+    return found.get(i).number;
   }
 
   public int print() {
@@ -189,17 +189,18 @@ public final class BuildingText {
   }
 
   public int at(int i) throws IndexOutOfBoundsException {
-    if (i < 0 || i >= plan.length) {
+    int sign = plan.signOrNone(i);
+    if (sign == NONE) {
       throw new IndexOutOfBoundsException("no such sign was laid out");
     }
-    return plan.signs[i];
+    return sign;
   }
 
   public int count(int what) {
     switch (what) {
       case 0: return latest.places.size();
-      case 1: return latest.ways.size();
-      case 2: return latest.serves.size();
+      case 1: return latest.wayLines;
+      case 2: return latest.serveLines;
       case 3: return editions.size() - 1;
       case 4: return signCount;
       default: return -1;
@@ -210,8 +211,9 @@ public final class BuildingText {
     return number >= 0 && number < editions.size() ? editions.get(number) : null;
   }
 
-  /** Whatever has a name in a text. */
+  /** Whatever has a name in a text; a set of an edition's places is a long with a bit for each. */
   private static final class Place {
+    private final int number;
     private final int name;
     private final int kind;
     private final int x;
@@ -219,21 +221,35 @@ public final class BuildingText {
     private final int w;
     private final int h;
     private int level;
-    /** A bin's rack, the piece that something is at, or a lift's first stop. */
-    private int base;
+    /** A bin's rack, the piece that something is at, or a lift's first stop; null if it has none. */
+    private Place base;
     /** What place() tells as 7: lines that serve or go, or stops. */
     private int lines;
+    /** The pieces to which one goes from this one, and from which one comes, by one way or lift. */
+    private long onward;
+    private long back;
+    private long servedFrom;
     private boolean hasWayOrLift;
+    private boolean isStop;
     private int units;
 
-    private Place(int name, int kind, int x, int y, int w, int h) {
+    private Place(int number, int name, int kind, int x, int y, int w, int h) {
+      this.number = number;
       this.name = name;
       this.kind = kind;
       this.x = x;
       this.y = y;
       this.w = w;
       this.h = h;
-      base = NONE;
+    }
+
+    /** Places from 64 on share bits with earlier ones: no edition that has them is taken. */
+    private long bit() {
+      return 1L << number;
+    }
+
+    private int baseNumber() {
+      return base == null ? NONE : base.number;
     }
 
     private boolean contains(Place inner) {
@@ -249,92 +265,94 @@ public final class BuildingText {
     private boolean hasPointsOf(Place other) {
       return x == other.x && y == other.y && w == other.w && h == other.h;
     }
-  }
 
-  /** Two places that a line binds: a way's pieces, a bin and its piece, a lift and a stop. */
-  private static final class Link {
-    private final int first;
-    private final int second;
-    private final boolean bothWays;
-
-    private Link(int first, int second, boolean bothWays) {
-      this.first = first;
-      this.second = second;
-      this.bothWays = bothWays;
+    private boolean hasRackOf(Place other) {
+      return base != null && other.base != null && base.name == other.base.name;
     }
   }
 
   /** The places of one text and what binds them; it may be too large until it is taken. */
   private static final class Edition {
     private final ArrayList<Place> places;
-    private final ArrayList<Link> ways;
-    private final ArrayList<Link> serves;
-    private final ArrayList<Link> stops;
+    private int wayLines;
+    private int serveLines;
 
     private Edition() {
       places = new ArrayList<>();
-      ways = new ArrayList<>();
-      serves = new ArrayList<>();
-      stops = new ArrayList<>();
     }
 
     private boolean isTooLarge() {
-      return places.size() > MOST_PLACES || ways.size() + serves.size() > MOST_LINKS;
+      return places.size() > MOST_PLACES || wayLines + serveLines > MOST_WAYS_AND_SERVES;
     }
 
     private Place placeOrNull(int i) {
       return i >= 0 && i < places.size() ? places.get(i) : null;
     }
 
-    private int find(int name) {
+    private Place namedOrNull(int name) {
       for (int i = 0; i < places.size(); i++) {
-        if (places.get(i).name == name) {
-          return i;
+        Place place = places.get(i);
+        if (place.name == name) {
+          return place;
         }
       }
-      return NONE;
+      return null;
     }
 
-    private int findPiece(int rank) {
+    private Place pieceOrNull(int rank) {
       int before = 0;
       for (int i = 0; i < places.size(); i++) {
-        if (places.get(i).kind == PIECE) {
+        Place place = places.get(i);
+        if (place.kind == PIECE) {
           if (before == rank) {
-            return i;
+            return place;
           }
           before++;
         }
       }
-      return NONE;
+      return null;
     }
 
-    private boolean keepsBin(Place bin, Edition itsEdition) {
-      Place kept = placeOrNull(find(bin.name));
-      if (kept == null || kept.kind != BIN || kept.level != bin.level || !kept.hasPointsOf(bin)) {
-        return false;
+    private boolean keepsBin(Place bin) {
+      Place kept = namedOrNull(bin.name);
+      return kept != null && kept.kind == BIN && kept.level == bin.level
+          && kept.hasPointsOf(bin) && kept.hasRackOf(bin);
+    }
+
+    private void addWay(Place first, Place second, boolean bothWays) {
+      wayLines++;
+      first.lines++;
+      second.lines++;
+      first.hasWayOrLift = true;
+      second.hasWayOrLift = true;
+      first.onward |= second.bit();
+      second.back |= first.bit();
+      if (bothWays) {
+        second.onward |= first.bit();
+        first.back |= second.bit();
       }
-      Place keptRack = placeOrNull(kept.base);
-      Place rack = itsEdition.placeOrNull(bin.base);
-      return keptRack != null && rack != null && keptRack.name == rack.name;
     }
 
-    private void addWay(int first, int second, boolean bothWays) {
-      ways.add(new Link(first, second, bothWays));
-      places.get(first).lines++;
-      places.get(second).lines++;
-      places.get(first).hasWayOrLift = true;
-      places.get(second).hasWayOrLift = true;
+    private void addServe(Place bin, Place piece) {
+      serveLines++;
+      bin.lines++;
+      bin.servedFrom |= piece.bit();
     }
 
-    private void addServe(int bin, int piece) {
-      serves.add(new Link(bin, piece, false));
-      places.get(bin).lines++;
-    }
-
-    private void addStop(int lift, int piece) {
-      stops.add(new Link(lift, piece, true));
-      places.get(lift).lines++;
-      places.get(piece).hasWayOrLift = true;
+    private void addLift(Place lift, ArrayList<Place> stops) {
+      places.add(lift);
+      lift.lines = stops.size();
+      long all = 0;
+      for (int i = 0; i < stops.size(); i++) {
+        all |= stops.get(i).bit();
+      }
+      for (int i = 0; i < stops.size(); i++) {
+        Place stop = stops.get(i);
+        stop.isStop = true;
+        stop.hasWayOrLift = true;
+        stop.onward |= all;
+        stop.back |= all;
+      }
     }
   }
 
@@ -352,15 +370,15 @@ public final class BuildingText {
     private final char[] text;
     private final int end;
     private final Edition edition;
-    private final int[] stops;
+    private final ArrayList<Place> stops;
     private int next;
     private int refused;
 
     private TextReader(char[] text, int end, Edition edition) {
       this.text = text;
-      this.end = end;
+      this.end = Math.min(end, text.length);
       this.edition = edition;
-      stops = new int[MOST_STOPS];
+      stops = new ArrayList<>();
       refused = NONE;
     }
 
@@ -395,7 +413,7 @@ public final class BuildingText {
 
     private void readBin() {
       int name = readNewName();
-      int rack = readUsedName(RACK, NONE);
+      Place rack = readUsedName(RACK, null);
       int level = readNumber(1, 9);
       Place bin = readArea(name, BIN);
       bin.level = level;
@@ -410,7 +428,7 @@ public final class BuildingText {
       int y = readNumber(0, FLOOR_DEPTH - 1);
       int w = readNumber(1, FLOOR_WIDTH - x);
       int h = readNumber(1, FLOOR_DEPTH - y);
-      return new Place(name, kind, x, y, w, h);
+      return new Place(edition.places.size(), name, kind, x, y, w, h);
     }
 
     private void readPiece() {
@@ -418,45 +436,42 @@ public final class BuildingText {
       int x = readNumber(0, FLOOR_WIDTH - 1);
       int y = readNumber(0, FLOOR_DEPTH - 1);
       if (endsLine()) {
-        edition.places.add(new Place(name, PIECE, x, y, 1, 1));
+        edition.places.add(new Place(edition.places.size(), name, PIECE, x, y, 1, 1));
       }
     }
 
     private void readAtPiece(int kind) {
       int name = readNewName();
-      int piece = readUsedName(PIECE, NONE);
-      if (endsLine()) {
-        addAtPiece(name, kind, piece);
+      Place piece = readUsedName(PIECE, null);
+      if (endsLine() && piece != null) {
+        edition.places.add(newAtPiece(name, kind, piece));
       }
     }
 
     private void readLift() {
       int name = readNewName();
-      stops[0] = readUsedName(PIECE, NONE);
-      int count = 1;
-      while (count < MOST_STOPS && refused == NONE && peek() == BLANK) {
-        stops[count] = readUsedName(PIECE, NONE);
-        count++;
-      }
-      if (endsLine()) {
-        int lift = edition.places.size();
-        addAtPiece(name, LIFT, stops[0]);
-        for (int i = 0; i < count; i++) {
-          edition.addStop(lift, stops[i]);
+      stops.clear();
+      for (int i = 0; i < MOST_STOPS && refused == NONE && (i == 0 || peek() == BLANK); i++) {
+        Place stop = readUsedName(PIECE, null);
+        if (stop != null) {
+          stops.add(stop);
         }
+      }
+      if (endsLine() && !stops.isEmpty()) {
+        edition.addLift(newAtPiece(name, LIFT, stops.get(0)), stops);
       }
     }
 
-    private void addAtPiece(int name, int kind, int piece) {
-      Place base = edition.places.get(piece);
-      Place added = new Place(name, kind, base.x, base.y, base.w, base.h);
-      added.base = piece;
-      edition.places.add(added);
+    private Place newAtPiece(int name, int kind, Place piece) {
+      int number = edition.places.size();
+      Place made = new Place(number, name, kind, piece.x, piece.y, piece.w, piece.h);
+      made.base = piece;
+      return made;
     }
 
     private void readWay() {
-      int first = readUsedName(PIECE, NONE);
-      int second = readUsedName(PIECE, first);
+      Place first = readUsedName(PIECE, null);
+      Place second = readUsedName(PIECE, first);
       skip(BLANK);
       int kind = peek();
       if (kind == '>' || kind == '=') {
@@ -464,15 +479,15 @@ public final class BuildingText {
       } else {
         refuse(next);
       }
-      if (endsLine()) {
+      if (endsLine() && first != null && second != null) {
         edition.addWay(first, second, kind == '=');
       }
     }
 
     private void readServe() {
-      int bin = readUsedName(BIN, NONE);
-      int piece = readUsedName(PIECE, NONE);
-      if (endsLine()) {
+      Place bin = readUsedName(BIN, null);
+      Place piece = readUsedName(PIECE, null);
+      if (endsLine() && bin != null && piece != null) {
         edition.addServe(bin, piece);
       }
     }
@@ -481,19 +496,18 @@ public final class BuildingText {
       skip(BLANK);
       int start = next;
       int name = readName();
-      if (edition.find(name) != NONE) {
+      if (edition.namedOrNull(name) != null) {
         refuse(start);
       }
       return name;
     }
 
     /** The place that a name is of; it is refused unless it has the kind and is not the barred one. */
-    private int readUsedName(int kind, int barred) {
+    private Place readUsedName(int kind, Place barred) {
       skip(BLANK);
       int start = next;
-      int name = readName();
-      int used = edition.find(name);
-      if (used == NONE || used == barred || edition.places.get(used).kind != kind) {
+      Place used = edition.namedOrNull(readName());
+      if (used == null || used == barred || used.kind != kind) {
         refuse(start);
       }
       return used;
@@ -565,101 +579,59 @@ public final class BuildingText {
     }
   }
 
-  /** Where one can go in the latest edition; a set of places is a long with a bit for each. */
+  /** Where one can go in an edition. */
   private static final class Going {
-    private final long[] onward;
-    private final long[] back;
-    private final long[] stopsOfLift;
-    private int size;
+    private final Edition edition;
     private long docks;
     private long reached;
     private long exiting;
 
-    private Going() {
-      onward = new long[MOST_PLACES];
-      back = new long[MOST_PLACES];
-      stopsOfLift = new long[MOST_PLACES];
+    private Going(Edition edition) {
+      this.edition = edition;
     }
 
-    /** The edition must not be too large. */
-    private void learn(Edition edition) {
-      forget();
-      size = edition.places.size();
-      learnWays(edition);
-      learnLifts(edition);
-      for (int i = 0; i < size; i++) {
+    private void learn() {
+      for (int i = 0; i < edition.places.size(); i++) {
         Place place = edition.places.get(i);
-        if (place.kind == DOCK) {
-          docks |= 1L << place.base;
+        if (place.kind == DOCK && place.base != null) {
+          docks |= place.base.bit();
         }
       }
-      reached = spread(onward, docks);
-      exiting = spread(back, docks);
+      reached = spread(docks, false);
+      exiting = spread(docks, true);
     }
 
-    private void forget() {
-      for (int i = 0; i < MOST_PLACES; i++) {
-        onward[i] = 0;
-        back[i] = 0;
-        stopsOfLift[i] = 0;
-      }
-      docks = 0;
+    private boolean isReached(Place piece) {
+      return (reached & piece.bit()) != 0;
     }
 
-    private void learnWays(Edition edition) {
-      for (int i = 0; i < edition.ways.size(); i++) {
-        Link way = edition.ways.get(i);
-        learnStep(way.first, way.second);
-        if (way.bothWays) {
-          learnStep(way.second, way.first);
-        }
-      }
+    private boolean isExiting(Place piece) {
+      return (exiting & piece.bit()) != 0;
     }
 
-    private void learnStep(int from, int to) {
-      onward[from] |= 1L << to;
-      back[to] |= 1L << from;
+    private boolean isServed(Place bin) {
+      return (reached & bin.servedFrom) != 0;
     }
 
-    private void learnLifts(Edition edition) {
-      for (int i = 0; i < edition.stops.size(); i++) {
-        Link stop = edition.stops.get(i);
-        stopsOfLift[stop.first] |= 1L << stop.second;
-      }
-      for (int i = 0; i < edition.stops.size(); i++) {
-        Link stop = edition.stops.get(i);
-        onward[stop.second] |= stopsOfLift[stop.first];
-        back[stop.second] |= stopsOfLift[stop.first];
-      }
+    private int countOnward(Place piece) {
+      return Long.bitCount(spread(piece.bit(), false)) - 1;
     }
 
-    private boolean isReached(int piece) {
-      return (reached >>> piece & 1) == 1;
-    }
-
-    private boolean isExiting(int piece) {
-      return (exiting >>> piece & 1) == 1;
-    }
-
-    private int countOnward(int piece) {
-      return Long.bitCount(spread(onward, 1L << piece)) - 1;
-    }
-
-    private int stepsToDock(int piece) {
-      long seen = 1L << piece;
+    private int stepsToDock(Place piece) {
+      long seen = piece.bit();
       for (int steps = 0; steps < MOST_PLACES; steps++) {
         if ((seen & docks) != 0) {
           return steps;
         }
-        seen = widen(onward, seen);
+        seen = widen(seen, false);
       }
       return NONE;
     }
 
-    private long spread(long[] steps, long from) {
+    private long spread(long from, boolean backward) {
       long seen = from;
       for (int i = 0; i < MOST_PLACES; i++) {
-        long wider = widen(steps, seen);
+        long wider = widen(seen, backward);
         if (wider == seen) {
           break;
         }
@@ -668,11 +640,12 @@ public final class BuildingText {
       return seen;
     }
 
-    private long widen(long[] steps, long from) {
+    private long widen(long from, boolean backward) {
       long wider = from;
-      for (int i = 0; i < size; i++) {
-        if ((from >>> i & 1) == 1) {
-          wider |= steps[i];
+      for (int i = 0; i < edition.places.size(); i++) {
+        Place place = edition.places.get(i);
+        if ((from & place.bit()) != 0) {
+          wider |= backward ? place.back : place.onward;
         }
       }
       return wider;
@@ -708,63 +681,51 @@ public final class BuildingText {
     private void inspect(Edition edition, Going going) {
       faults.clear();
       for (int i = 0; i < edition.places.size(); i++) {
-        switch (edition.places.get(i).kind) {
-          case RACK: inspectArea(edition, i); break;
-          case BIN: inspectBin(edition, i, going); break;
-          case PIECE: inspectPiece(edition, i, going); break;
+        Place place = edition.places.get(i);
+        switch (place.kind) {
+          case RACK: inspectArea(edition, place); break;
+          case BIN: inspectBin(edition, place, going); break;
+          case PIECE: inspectPiece(place, going); break;
           case DOCK:
           case STATION:
-          case CHARGER: inspectAtPiece(edition, i); break;
+          case CHARGER: inspectAtPiece(place); break;
           default: break;
         }
       }
     }
 
-    private void inspectBin(Edition edition, int bin, Going going) {
-      Place place = edition.places.get(bin);
-      if (!edition.places.get(place.base).contains(place)) {
-        faults.add(new Fault(NOT_INSIDE, bin, place.base));
+    private void inspectBin(Edition edition, Place bin, Going going) {
+      if (bin.base != null && !bin.base.contains(bin)) {
+        faults.add(new Fault(NOT_INSIDE, bin.number, bin.baseNumber()));
       }
       inspectArea(edition, bin);
-      if (!isServed(edition, bin, going)) {
-        faults.add(new Fault(NOT_SERVED, bin, NONE));
+      if (!going.isServed(bin)) {
+        faults.add(new Fault(NOT_SERVED, bin.number, NONE));
       }
     }
 
-    private void inspectArea(Edition edition, int checked) {
-      Place place = edition.places.get(checked);
-      for (int i = 0; i < checked; i++) {
+    private void inspectArea(Edition edition, Place place) {
+      for (int i = 0; i < place.number && i < edition.places.size(); i++) {
         Place earlier = edition.places.get(i);
         // Racks have no base and no level, so one comparison serves racks and bins.
         boolean together = earlier.kind == place.kind
-            && earlier.base == place.base && earlier.level == place.level;
+            && earlier.baseNumber() == place.baseNumber() && earlier.level == place.level;
         if (together && earlier.sharesArea(place)) {
-          faults.add(new Fault(SHARES_AREA, checked, i));
+          faults.add(new Fault(SHARES_AREA, place.number, earlier.number));
           return;
         }
       }
     }
 
-    private static boolean isServed(Edition edition, int bin, Going going) {
-      for (int i = 0; i < edition.serves.size(); i++) {
-        Link serve = edition.serves.get(i);
-        if (serve.first == bin && going.isReached(serve.second)) {
-          return true;
-        }
-      }
-      return false;
-    }
-
-    private void inspectAtPiece(Edition edition, int checked) {
-      int piece = edition.places.get(checked).base;
-      if (!edition.places.get(piece).hasWayOrLift) {
-        faults.add(new Fault(AT_LONE_PIECE, checked, piece));
+    private void inspectAtPiece(Place place) {
+      if (place.base != null && !place.base.hasWayOrLift) {
+        faults.add(new Fault(AT_LONE_PIECE, place.number, place.baseNumber()));
       }
     }
 
-    private void inspectPiece(Edition edition, int piece, Going going) {
-      if (edition.places.get(piece).hasWayOrLift && !going.isExiting(piece)) {
-        faults.add(new Fault(NO_EXIT, piece, NONE));
+    private void inspectPiece(Place piece, Going going) {
+      if (piece.hasWayOrLift && !going.isExiting(piece)) {
+        faults.add(new Fault(NO_EXIT, piece.number, NONE));
       }
     }
   }
@@ -802,7 +763,7 @@ public final class BuildingText {
     }
 
     private void layOutEmptyRows(int rows) {
-      length = rows * ROW_LENGTH;
+      length = Math.min(rows * ROW_LENGTH, signs.length);
       for (int i = 0; i < length; i++) {
         signs[i] = i % ROW_LENGTH == FLOOR_WIDTH ? (char) LINE_END : '.';
       }
@@ -818,17 +779,30 @@ public final class BuildingText {
     }
 
     private void paintStops(Edition edition) {
-      for (int i = 0; i < edition.stops.size(); i++) {
-        paintPlace(edition.places.get(edition.stops.get(i).second), 'E');
+      for (int i = 0; i < edition.places.size(); i++) {
+        Place place = edition.places.get(i);
+        if (place.isStop) {
+          paintPlace(place, 'E');
+        }
       }
     }
 
     private void paintPlace(Place place, char sign) {
       for (int y = place.y; y < place.y + place.h; y++) {
         for (int x = place.x; x < place.x + place.w; x++) {
-          signs[y * ROW_LENGTH + x] = sign;
+          paintPoint(y * ROW_LENGTH + x, sign);
         }
       }
+    }
+
+    private void paintPoint(int i, char sign) {
+      if (i >= 0 && i < length) {
+        signs[i] = sign;
+      }
+    }
+
+    private int signOrNone(int i) {
+      return i >= 0 && i < length ? signs[i] : NONE;
     }
   }
 }

@@ -31,6 +31,7 @@ public final class DifferTest {
     DUE.test("promise 11", "of the same name", DifferTest::otherNames);
     DUE.test("promise 11", "of the same .. level", DifferTest::otherLevels);
     DUE.test("promise 11", "of the same .. points", DifferTest::otherPoints);
+    DUE.test("promise 11", "of the same .. points | each of the four parts", DifferTest::eachPartOfPoints);
     DUE.test("promise 11", "in a rack of the same name", DifferTest::otherRacks);
     DUE.test("promise 11", "in a rack of the same name | elsewhere", DifferTest::racksMoved);
     DUE.test("promise 11", "edition's bins that the latest one has not | the name is another kind's", DifferTest::otherKinds);
@@ -211,6 +212,26 @@ public final class DifferTest {
     differs("h", changed("9 0 2 2", "9 0 2 1"), 30, C);
     differs("w and h", changed("9 0 2 2", "9 0 3 3"), 30, C);
     differs("the same area otherwise", changed("9 0 2 2", "9 0 4 1"), 30, C);
+  }
+
+  private static void eachPartOfPoints() {
+    for (int before = 0; before < 16; before++) {
+      for (int after = 0; after < 16; after++) {
+        BuildingText building = Due.of(binWithParts(before));
+        building.fill(1, 1, 5);
+        Due.take(building, binWithParts(after));
+        DUE.same(binWithParts(before) + " then " + binWithParts(after), building.differ(1), before == after ? 0 : 5);
+      }
+    }
+  }
+
+  /** A bin whose x, y, w and h are 1 or 2 each, by the bits of a number. */
+  private static String binWithParts(int bits) {
+    StringBuilder line = new StringBuilder("R r 0 0 4 4/B b r 1");
+    for (int part = 0; part < 4; part++) {
+      line.append(' ').append(1 + (bits >> part & 1));
+    }
+    return line.append('/').toString();
   }
 
   private static void otherRacks() {

@@ -1,6 +1,8 @@
 /** Promise 8 (piece), and the terms of going that it rests on. */
 public final class PieceTest {
   private static final Due DUE = new Due("PieceTest");
+  private static final int ONLY_THERE = 0;
+  private static final int ONLY_BACK = 1;
 
   public static void main(String[] args) {
     going();
@@ -18,6 +20,7 @@ public final class PieceTest {
     DUE.test("promise 8, terms", "= (61) both ways", PieceTest::bothWays);
     DUE.test("promise 8, terms", "GOING: by ways, as they allow", PieceTest::chains);
     DUE.test("promise 8, terms", "GOING: by ways, as they allow | several from or to one piece", PieceTest::forks);
+    DUE.test("promise 8, terms", "GOING: by ways, as they allow, and by lifts | of each kind at one piece", PieceTest::forksOfEachKind);
     DUE.test("promise 8, terms", "and by lifts from any of their stops to any other one", PieceTest::lifts);
     DUE.test("promise 8, terms", "and by lifts | one stop", PieceTest::liftWithOneStop);
     DUE.test("promise 8, terms", "and by lifts | one stop twice", PieceTest::liftWithStopTwice);
@@ -76,6 +79,38 @@ public final class PieceTest {
     pieces(pieces + "E l a b/E m a c/E n a d/", 3, 3, 3, 3, 3);
     pieces(pieces + "W a b >/E l a c/W a d >/", 3, 3, 0, 3, 0);
     pieces(pieces + "W a b >/W a c >/W a d >/D x b/", 4, 1, 0, -1, -1);
+  }
+
+  /** The dock's piece a is bound to b, c and d in one of five ways each. */
+  private static void forksOfEachKind() {
+    for (int kinds = 0; kinds < 125; kinds++) {
+      int[] kind = {kinds % 5, kinds / 5 % 5, kinds / 25};
+      StringBuilder lines = new StringBuilder("P a 0 0/P b 1 0/P c 2 0/P d 3 0/D x a/");
+      int goneTo = 0;
+      for (int i = 0; i < 3; i++) {
+        lines.append(bound(kind[i], "bcd".substring(i, i + 1), "lmn".substring(i, i + 1)));
+        goneTo += kind[i] == ONLY_BACK ? 0 : 1;
+      }
+      BuildingText building = Due.of(lines.toString());
+      DUE.row("a of " + lines, what -> building.piece(0, what), 0, 1, 1, goneTo, 0);
+      for (int i = 0; i < 3; i++) {
+        int piece = i + 1;
+        int there = kind[i] == ONLY_BACK ? 0 : 1;
+        int back = kind[i] == ONLY_THERE ? 0 : 1;
+        DUE.row("piece " + piece + " of " + lines, what -> building.piece(piece, what),
+            piece, there, back, back == 0 ? 0 : 1 + goneTo - there, back == 0 ? -1 : 1);
+      }
+    }
+  }
+
+  private static String bound(int kind, String piece, String lift) {
+    switch (kind) {
+      case ONLY_THERE: return "W a " + piece + " >/";
+      case ONLY_BACK: return "W " + piece + " a >/";
+      case 2: return "W a " + piece + " =/";
+      case 3: return "W " + piece + " a =/";
+      default: return "E " + lift + " a " + piece + "/";
+    }
   }
 
   private static void lifts() {

@@ -20,6 +20,7 @@ public final class PlaceTest {
     names();
     DUE.test("promise 9", "Whether a bin lies within a rack", PlaceTest::binsWithinRack);
     DUE.test("promise 9", "(any rack, whole) | by one point beyond it", PlaceTest::binsPartlyWithinRack);
+    DUE.test("promise 9", "(any rack, whole) | point by point", PlaceTest::binsPointByPoint);
     DUE.test("promise 9", "(any rack, whole) | any rack", PlaceTest::binsWithinOtherRacks);
     DUE.test("promise 9", "IllegalArgumentException if the one is no bin", PlaceTest::insideOfNoBin);
     DUE.test("promise 9", "or the other no rack", PlaceTest::insideOfNoRack);
@@ -273,6 +274,35 @@ public final class PlaceTest {
         "2 2 4 4", "1 1 6 5", "5 4 2 1", "5 4 1 2", "0 0 40 20"}) {
       DUE.fails("inside " + bin, inside(bin));
     }
+  }
+
+  private static void binsPointByPoint() {
+    int[][] racks = {{7, 2, 3, 2}, {2, 7, 3, 2}, {7, 2, 2, 3}, {2, 7, 2, 3}};
+    for (int[] rack : racks) {
+      for (int x = rack[0] - 1; x <= rack[0] + rack[2]; x++) {
+        for (int y = rack[1] - 1; y <= rack[1] + rack[3]; y++) {
+          for (int side = 1; side <= 4; side++) {
+            insideByPoints(rack, new int[] {x, y, side, 1});
+            insideByPoints(rack, new int[] {x, y, 1, side});
+          }
+        }
+      }
+    }
+  }
+
+  private static void insideByPoints(int[] rack, int[] bin) {
+    String text = "R r " + parts(rack) + "/B b r 1 " + parts(bin) + "/";
+    boolean whole = true;
+    for (int x = bin[0]; x < bin[0] + bin[2]; x++) {
+      for (int y = bin[1]; y < bin[1] + bin[3]; y++) {
+        whole &= x >= rack[0] && x < rack[0] + rack[2] && y >= rack[1] && y < rack[1] + rack[3];
+      }
+    }
+    DUE.same(text, Due.of(text).inside(1, 0) ? 1 : 0, whole ? 1 : 0);
+  }
+
+  private static String parts(int[] area) {
+    return area[0] + " " + area[1] + " " + area[2] + " " + area[3];
   }
 
   private static void binsWithinOtherRacks() {
